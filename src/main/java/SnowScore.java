@@ -120,7 +120,10 @@ public final class SnowScore {
         }
         taped = 0;
         // Told into the spare plan, so that a text with a fault leaves all as it was.
-        teller.tell(tape, n, spare);
+        teller.begin(tape, n, spare);
+        for (int i = 0; i < n && teller.hasMore(); i++) {
+            teller.tellLine();
+        }
         if (teller.fault != 0) {
             return NONE;
         }
@@ -956,15 +959,15 @@ public final class SnowScore {
                 }
                 next++;
             }
-            type = next - start > WORD_ROOM ? NO_TOKEN : wordType(next - start);
+            type = next - start > WORD_ROOM ? NO_TOKEN : wordType();
         }
 
-        private int wordType(int size) {
+        private int wordType() {
             for (int word = 0; word < WORD_COUNT; word++) {
                 boolean same = true;
                 for (int i = 0; i < WORD_ROOM && same; i++) {
-                    int sign = i < size ? byteAt(start + i) : ' ';
-                    same = WORDS.charAt(word * WORD_ROOM + i) == sign;
+                    int letter = letters >> (25 - 5 * i) & 31;
+                    same = WORDS.charAt(word * WORD_ROOM + i) == (letter == 0 ? ' ' : 'a' - 1 + letter);
                 }
                 if (same) {
                     return word;
@@ -1050,7 +1053,7 @@ public final class SnowScore {
             plan = first;
         }
 
-        void tell(byte[] tape, int length, Plan into) {
+        void begin(byte[] tape, int length, Plan into) {
             plan = into;
             plan.clear();
             fault = 0;
@@ -1063,9 +1066,10 @@ public final class SnowScore {
             cellsTold = false;
             written = 0;
             lexer.begin(tape, length);
-            for (int i = 0; i <= length && lexer.type != END && fault == 0; i++) {
-                tellLine();
-            }
+        }
+
+        boolean hasMore() {
+            return lexer.type != END && fault == 0;
         }
 
         private void fail(int kind) {
@@ -1075,7 +1079,7 @@ public final class SnowScore {
             }
         }
 
-        private void tellLine() {
+        void tellLine() {
             switch (lexer.type) {
                 case FIELD:
                     tellField();

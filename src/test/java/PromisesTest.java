@@ -196,6 +196,15 @@ public final class PromisesTest {
         due(3, "the tape stays", x.feed(0, 0, 0, 0, 0), 40);
         due(3, "text(7)", x.text(7), 1);
         due(3, "text of no bytes", x.text(0), 0);
+        put(x, "law deep 1<=2;");
+        due(3, "text(11), cut within a sign", x.text(11), -1);
+        due(4, "the length", x.fault(1), 11);
+        put(x, "seed 12;");
+        due(3, "text(6), cut within a number", x.text(6), -1);
+        due(4, "the length", x.fault(1), 6);
+        put(x, "farm f 0 0 0 0;");
+        due(3, "text(3), cut within a word", x.text(3), -1);
+        due(4, "no word of the language", x.fault(1), 0);
         due(3, "the tape is empty", x.text(1), -2);
 
         x = told(TWO);
@@ -267,6 +276,8 @@ public final class PromisesTest {
         fault("cast;", 1, 4);
         fault("cast 1,2;", 1, 6);
         fault("law own 1;", 1, 4);
+        fault("law weight 1;", 1, 4);
+        fault("law law 1;", 1, 4);
         fault("law deep 1 2;", 1, 11);
         fault("law deep (1;", 1, 11);
         fault("law deep (1", 1, 11);
@@ -301,7 +312,16 @@ public final class PromisesTest {
         fault("field 2 2;ice 2 0;", 2, 14);
         fault("farm f 1 1 0 1;", 2, 11);
         fault("farm f 1 1 1 0;", 2, 13);
+        fault("farm f 6 0 6 0;", 2, 7);
+        fault("farm f 0 5 0 5;", 2, 9);
         fault("farm f 0 0 6 0;", 2, 11);
+        fault("farm f 0 0 0 5;", 2, 13);
+        fault("farm f 0 0 0 0;walker w f 0 1 0 0;", 2, 26);
+        fault("farm f 0 0 0 0;walker w f 61 1 0 0;", 2, 26);
+        fault("farm f 0 0 0 0;walker w f 1 0 0 0;", 2, 28);
+        fault("farm f 0 0 0 0;walker w f 1 4 0 0;", 2, 28);
+        fault("farm f 0 0 0 0;walker w f 1 1 6 0;", 2, 30);
+        fault("farm f 0 0 0 0;walker w f 1 1 0 5;", 2, 32);
         fault("seed 100000;", 2, 5);
         fault("cast 0 101;", 2, 7);
         fault("cast " + often("1 ", 24) + "0;", 2, 5 + 48);
@@ -506,7 +526,13 @@ public final class PromisesTest {
         lawIs("3=4", 0);
         lawIs("3<>4", 1);
         lawIs("3>=4", 0);
+        lawIs("4>=4", 1);
         lawIs("4>3", 1);
+        lawIs("3>3", 0);
+        lawIs("1000*1000*1000*999+1000*1000*1000", 1000000000000L);
+        lawIs("0-1000*1000*1000*999-1000*1000*1000", -1000000000000L);
+        lawIs(often("not ", 63) + "1", 0);
+        lawIs(often("(", 8) + often("not ", 62) + "1" + often(")", 8), 1);
         lawIs("1+1=2", 1);
         lawIs("(1<2)+(3>2)", 2);
         lawIs("1000*1000*1000*1000", 1000000000000L);
