@@ -287,7 +287,7 @@ public final class SnowScore {
     }
 
     public int hours(int n) {
-        if (n < 0 || n > 99 || now.hour + n > LAST_HOUR) {
+        if (n < 0 || n > 99 || !now.hasHoursLeft(n)) {
             return NONE;
         }
         for (int i = 0; i < n; i++) {
@@ -317,7 +317,7 @@ public final class SnowScore {
     }
 
     public int night() {
-        if (now.hour >= LAST_HOUR) {
+        if (!now.hasHoursLeft(1)) {
             return NO_NIGHT;
         }
         log.size = 0;
@@ -619,6 +619,10 @@ public final class SnowScore {
 
     public int chance(int seed, int n, int farm, int bound) {
         if (seed < 0 || n < 1 || n > 9 || !plan.hasFarm(farm) || bound < 0 || bound > 9999) {
+            return NONE;
+        }
+        // Each night is an hour, and there is none behind the last hour.
+        if (!now.hasHoursLeft(n)) {
             return NONE;
         }
         int reached = 0;
@@ -1689,6 +1693,10 @@ public final class SnowScore {
                 marks.add(walker, boots[walker], cell, way, hour, deep);
             }
             return leaves;
+        }
+
+        boolean hasHoursLeft(int n) {
+            return n <= LAST_HOUR - hour;
         }
 
         void passHour() {

@@ -1166,7 +1166,7 @@ final class Model {
     }
 
     int chance(int seed, int n, int farm, int bound) {
-        if (seed < 0 || !in(n, 1, 9) || !isFarm(farm) || !in(bound, 0, 9999)) {
+        if (seed < 0 || !in(n, 1, 9) || !isFarm(farm) || !in(bound, 0, 9999) || now.hour + n > 9999) {
             return -1;
         }
         int hits = 0;

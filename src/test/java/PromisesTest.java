@@ -67,6 +67,7 @@ public final class PromisesTest {
         belows();
         layers();
         chances();
+        chancesAtTheLastHours();
         trials();
         undone();
         images();
@@ -679,7 +680,6 @@ public final class PromisesTest {
         walk(x, 0, 1);
         due(21, "a claim of the last hour", x.claim(2, 0, 9999, 9999), 0);
         due(24, "it is so", x.judged(), -1);
-        due(41, "chance at the last hour", x.chance(1, 9, 1, 0), 10);
         x = told(ROW + "law fade 0-5;");
         walk(x, 0, 1);
         x.hours(1);
@@ -1225,6 +1225,36 @@ public final class PromisesTest {
         due(41, "bound 10000", x.chance(0, 1, 1, 10000), -1);
         int night = x.night();
         due(41, "the night's own numbers are untouched", night, 4);
+    }
+
+    /** A night behind the last hour there is none, so neither are draws with such ones. */
+    private static void chancesAtTheLastHours() {
+        SnowScore x = told(ROW + "law fade 0;");
+        for (int i = 0; i < 100; i++) {
+            x.hours(99);
+        }
+        x.hours(89);
+        walk(x, 0, 1, 1);
+        due(41, "nine nights to 9998", x.chance(0, 9, 1, 0), 10);
+        x.hours(1);
+        due(41, "nine nights to 9999", x.chance(0, 9, 1, 0), 10);
+        due(41, "one night at 9990", x.chance(0, 1, 1, 2), oneNightEach(0));
+        x.hours(1);
+        due(41, "the ninth night would be behind 9999", x.chance(0, 9, 1, 0), -1);
+        due(41, "too much, and behind 9999", x.chance(0, 9, 1, 9999), -1);
+        due(41, "the eighth night is to 9999", x.chance(0, 8, 1, 0), 10);
+        x.hours(7);
+        due(41, "two nights behind 9998", x.chance(0, 2, 1, 0), -1);
+        due(41, "one night behind 9998", x.chance(0, 1, 1, 2), oneNightEach(0));
+        due(41, "nothing changed", x.count(5) * 1000 + x.count(6) * 100 + x.count(9), 9998002);
+        x.keep();
+        due(16, "the last night", x.night(), 4);
+        due(41, "no night behind 9999", x.chance(0, 1, 1, 0), -1);
+        due(41, "nor nine", x.chance(FAR_RIGHT, 9, 1, 9999), -1);
+        x.winter();
+        due(41, "a winter's end gives no hours", x.chance(0, 1, 1, 0), -1);
+        x.back();
+        due(41, "an image of 9998 does", x.chance(0, 1, 1, 2), oneNightEach(0));
     }
 
     /** In how many of ten nights no snow falls. */

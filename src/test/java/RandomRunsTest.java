@@ -46,6 +46,9 @@ public final class RandomRunsTest {
                 tell(goodText());
             }
         }
+        if (random.nextInt(10) == 0) {
+            goNearTheLastHour();
+        }
         int marchers = random.nextInt(4);
         int tellings = random.nextBoolean() ? 60 : 1000;
         while (calls.size() < 500) {
@@ -67,6 +70,14 @@ public final class RandomRunsTest {
             size++;
         }
         return size > 0;
+    }
+
+    private void goNearTheLastHour() {
+        for (int i = 0; i < 100; i++) {
+            same("hours(99)", real.hours(99), model.hours(99));
+        }
+        int more = 70 + random.nextInt(30);
+        same("hours(" + more + ")", real.hours(more), model.hours(more));
     }
 
     // ---- texts
