@@ -1,7 +1,5 @@
-import java.util.NoSuchElementException;
-
 /** The document's promises one by one: ordinary inputs, the edges that it names, wrong inputs. */
-public final class PromisesTest {
+public final class PromisesTest extends Telling {
     private static int wrong = 0;
     private static int asked = 0;
 
@@ -81,37 +79,6 @@ public final class PromisesTest {
 
     // ---- help
 
-    private static void put(SnowScore x, String text) {
-        StringBuilder padded = new StringBuilder(text);
-        while (padded.length() % 20 != 0) {
-            padded.append(' ');
-        }
-        for (int i = 0; i < padded.length(); i += 20) {
-            int[] n = new int[5];
-            for (int j = 0; j < 20; j++) {
-                n[j / 4] = n[j / 4] << 8 | (padded.charAt(i + j) & 255);
-            }
-            x.feed(n[0], n[1], n[2], n[3], n[4]);
-        }
-    }
-
-    private static int tell(SnowScore x, String text) {
-        put(x, text);
-        return x.text(text.length());
-    }
-
-    private static SnowScore told(String text) {
-        SnowScore x = new SnowScore();
-        due(3, "text: " + text, tell(x, text) > 0, true);
-        return x;
-    }
-
-    private static void walk(SnowScore x, int walker, int... ways) {
-        for (int way : ways) {
-            x.step(walker, way);
-        }
-    }
-
     private static void fault(String text, int kind, int place) {
         SnowScore x = new SnowScore();
         due(3, "text: " + text, tell(x, text), -1);
@@ -124,34 +91,6 @@ public final class PromisesTest {
         due(3, "text: " + text, tell(x, text), lines);
         due(4, "fault(0) of: " + text, x.fault(0), 0);
         due(4, "fault(1) of: " + text, x.fault(1), -1);
-    }
-
-    private static String often(String text, int times) {
-        StringBuilder all = new StringBuilder();
-        for (int i = 0; i < times; i++) {
-            all.append(text);
-        }
-        return all.toString();
-    }
-
-    /** 1: IndexOutOfBoundsException, 2: NoSuchElementException, 0: none. */
-    private static int thrown(SnowScore x, int walker, int what) {
-        try {
-            x.look(walker, what);
-            return 0;
-        } catch (IndexOutOfBoundsException e) {
-            return 1;
-        } catch (NoSuchElementException e) {
-            return 2;
-        }
-    }
-
-    private static int letters(String name) {
-        int bits = 0;
-        for (int i = 0; i < 6; i++) {
-            bits = bits << 5 | (i < name.length() ? name.charAt(i) - 'a' + 1 : 0);
-        }
-        return bits;
     }
 
     // ---- the text
