@@ -440,6 +440,16 @@ final class ClaimEdges extends Telling {
             e.due(kind + "far off", forgedBy(3, "0 0", kind + "0 0;"), 1);
         }
         e.due("none at all", forgedBy(1, "0 0", ""), 1);
+        // In the first cell of all, and in the last one.
+        for (String kind : new String[] {"tree ", "ice "}) {
+            for (String end : new String[] {"0 0", "7 0"}) {
+                SnowScore x = told("field 8 1;" + kind + end + ";farm f 0 0 0 0;walker w f 9 1 4 0;walker v f 9 1 "
+                    + (end.equals("0 0") ? "2 0;" : "5 0;"));
+                x.boots(1, 0);
+                walk(x, 1, end.equals("0 0") ? 3 : 1);
+                e.due(kind + "in " + end, x.forged(), 0);
+            }
+        }
     }
 
     private static void closedByMark(Edges e) {
@@ -534,6 +544,15 @@ final class ClaimEdges extends Telling {
         SnowScore x = told(ROW);
         walk(x, 0, 1, 1, 1);
         e.due("honest ones", x.forged(), 0);
+        // Of 90 marks the last two are read: v's own upon them, too far from home.
+        x = told("field 8 1;farm f 0 0 0 0;walker w f 9 1 0 0;walker v f 9 1 7 0;");
+        x.boots(1, 0);
+        for (int i = 0; i < 45; i++) {
+            walk(x, 1, 3, 1);
+        }
+        e.due("90", x.count(7), 90);
+        e.due("of 90: by the ones ahead they close", x.forged(), 0);
+        e.due("of 90: the first", x.forgery(0), -2);
         e.asks("forged", y -> y.forged());
     }
 
@@ -774,6 +793,10 @@ final class ClaimEdges extends Telling {
         SnowScore x = World.made();
         e.due("NEW", x.quiet(0, 7, 0), 1);
         e.due("STEPS", x.quiet(0, 7, 1), 4);
+        x = told(ROW);
+        e.due("over new snow", x.quiet(0, 3, 0), 3);
+        walk(x, 0, 1);
+        e.due("over one mark", x.quiet(0, 3, 0), 2);
         e.asks("quiet", y -> y.quiet(0, 7, 0));
     }
 
@@ -792,6 +815,13 @@ final class ClaimEdges extends Telling {
             e.due("the " + k + "-th of the way back", x.hushed(8, 0, k), back[k]);
         }
         e.due("to itself", x.hushed(4, 4, 0), 4);
+        // By what is read now, whatever was asked ahead.
+        x = told("field 3 3;farm f 0 0 0 0;walker w f 9 1 0 0;");
+        e.due("over new snow", x.hushed(0, 8, 1), 1);
+        walk(x, 0, 2, 2, 1, 1);
+        e.due("over marks", x.hushed(0, 8, 1), 3);
+        x.fall(1);
+        e.due("over covered ones", x.hushed(0, 8, 1), 1);
         e.asks("hushed", y -> y.hushed(0, 7, 2));
     }
 

@@ -101,6 +101,7 @@ final class TextEdges extends Telling {
         e.sentence("2", "NONE, and none come, if it would have more than 700.", TextEdges::fullTape);
         e.sentence("3", "The TAPE's first n bytes", TextEdges::firstBytes);
         e.sentence("3", "(it is empty then) are the TEXT", TextEdges::emptyThen);
+        e.sentence("3", "are the TEXT", TextEdges::nothingIsLeft);
         e.sentence("3", "(HOUR 0, no MARKS, no DEBTS, no CLAIMS, all KNOWN, no IMAGE, nothing to undo then):",
             TextEdges::allBegins);
         e.sentence("3", "how many LINES;", TextEdges::howManyLines);
@@ -280,6 +281,14 @@ final class TextEdges extends Telling {
             e.fault(FARM + "walker w " + word + " 1 1 0 0;", 1, 24);
         }
         e.good("farm fields 0 0 0 0;farm o 0 0 0 0;farm ando 0 0 0 0;walker nots o 1 1 0 0;", 4);
+        // One letter makes another word of it, whichever it is.
+        for (String word : LANGUAGE) {
+            for (int i = 0; i < word.length(); i++) {
+                String other = word.substring(0, i) + "q" + word.substring(i + 1);
+                e.good("farm " + other + " 0 0 0 0;walker " + other + " " + other + " 1 1 0 0;", 2);
+            }
+            e.good("farm " + word.substring(1) + "q 0 0 0 0;", 1);
+        }
     }
 
     private static void digits(Edges e) {
@@ -404,6 +413,16 @@ final class TextEdges extends Telling {
         e.due("a number", value("7"), 7);
         e.due("a name", value("weight"), 20);
         e.due("an E", value("((7))"), 7);
+        // All that an E can be stands between '(' and ')', too, and more behind it.
+        String[] es = {"0 or 1", "1 and 1", "not 0", "1<2", "1<=2", "1=1", "1<>2", "2>=1", "2>1", "3-2", "0+1", "1*1", "3/2"};
+        for (String one : es) {
+            e.due("(" + one + ")", value("(" + one + ")"), 1);
+            e.due("(" + one + ")+5", value("(" + one + ")+5"), 6);
+            e.due("5-(" + one + ")*2", value("5-(" + one + ")*2"), 3);
+            e.due("not (" + one + ")", value("not (" + one + ")"), 0);
+            e.due("((" + one + ")<2)=1", value("((" + one + ")<2)=1"), 1);
+            e.due("0 or (" + one + ") and 1", value("0 or (" + one + ") and 1"), 1);
+        }
         e.fault("law deep ;", 1, 9);
         e.fault("law deep ();", 1, 10);
         e.fault("law deep (1;", 1, 11);
@@ -554,6 +573,9 @@ final class TextEdges extends Telling {
         SnowScore x = told("tree 0 0;");
         e.due("in another text", tell(x, "ice 0 0;"), 1);
         e.due("it is ice", x.cell(0, 1), 2);
+        for (int i = 0; i < 3; i++) {
+            e.due("twelve of both again", tell(x, "field 8 6;" + kindLines("tree", 12, 0) + kindLines("ice", 12, 2)), 25);
+        }
     }
 
     private static void threeFarms(Edges e) {
@@ -830,7 +852,12 @@ final class TextEdges extends Telling {
         e.fault("law deep not not " + law + "law fade " + law + "law score " + law, 2, 9 + 8 + 22 + 9 + 22 + 10 + 20);
         // A text behind begins with none.
         SnowScore x = told("law deep " + often("not ", 63) + "1;");
-        e.due("64 again", tell(x, "law deep " + often("not ", 63) + "1;"), 1);
+        for (int i = 0; i < 5; i++) {
+            e.due("64 again", tell(x, FARM + "walker w f 1 1 0 0;law deep " + often("not ", 63) + "1;"), 3);
+            e.due("64 again: the value", x.law(2, 0), 0);
+            e.due("62 of another value", tell(x, FARM + "walker w f 1 1 0 0;law deep " + often("not ", 62) + "1;"), 3);
+            e.due("62 of another value: it", x.law(2, 0), 1);
+        }
     }
 
     private static void namesToldAlready(Edges e) {
@@ -1013,6 +1040,39 @@ final class TextEdges extends Telling {
         e.due("all KNOWN", x.judged(), 0);
     }
 
+    /** Whatever was told two texts ago and longer: nothing of it is left. */
+    private static void nothingIsLeft(Edges e) {
+        String all = "field 2 2;tree 0 0;ice 1 1;farm z 0 0 1 1;farm y 0 0 0 0;walker x z 9 3 1 1;cast 99 98 97 96;"
+            + "law deep 9+1;law fade 9+2;law score 9+3;seed 9;";
+        for (int others = 0; others < 4; others++) {
+            SnowScore x = told(all);
+            for (int i = 0; i < others; i++) {
+                e.due("a text between", tell(x, ""), 0);
+            }
+            e.due("a text without lines", tell(x, ""), 0);
+            for (int what = 0; what < 14; what++) {
+                e.due(others + " between, count(" + what + ")", x.count(what), what == 0 ? 6 : what == 1 ? 5 : 0);
+            }
+            for (int cell = 0; cell < 30; cell++) {
+                e.due(others + " between, whose is " + cell, x.cell(cell, 0), -1);
+                e.due(others + " between, what is in " + cell, x.cell(cell, 1), 0);
+            }
+            e.due(others + " between, farm z", x.named(0, letters("z")), -1);
+            e.due(others + " between, walker x", x.named(1, letters("x")), -1);
+            for (int hour = 0; hour < 24; hour++) {
+                e.due(others + " between, HOUR " + hour, x.covered(hour, 1, 0), 0);
+            }
+            e.due(others + " between, a night", x.night(), Numbers.night(0));
+            e.due(others + " between, farm and walker", tell(x, "farm z 0 0 0 0;walker x z 7 1 0 0;"), 2);
+            e.due(others + " between, deep", x.law(2, 0), Long.MIN_VALUE);
+            walk(x, 0, 1);
+            e.due(others + " between, DEEP", x.mark(0, 4), 7);
+            e.due(others + " between, fade", x.law(0, 0), Long.MIN_VALUE);
+            e.due(others + " between, score", x.law(1, 0), Long.MIN_VALUE);
+            e.due(others + " between, told again", tell(x, all), 11);
+        }
+    }
+
     private static void howManyLines(Edges e) {
         e.due("none", tell(new SnowScore(), ""), 0);
         e.due("one", tell(new SnowScore(), "seed 1;"), 1);
@@ -1031,6 +1091,24 @@ final class TextEdges extends Telling {
         e.due("its fault", one.fault(0), 3);
         e.stays("a second seed at the end", x -> tellBehind(x, all));
         e.stays("a fault of each line", x -> tellBehind(x, "field 9 9;"));
+        // A fault amid an E leaves nothing of it to the next text.
+        String[] cut = {"law deep 1+2*", "law deep ((((((((1", "law deep not not not", "law fade 1 or 2 and 3<4+5*", "law score (1 or (2 and ?",
+            "law deep ((((((((("};
+        for (String fault : cut) {
+            SnowScore x = told("");
+            for (int i = 0; i < 3; i++) {
+                e.due(fault, tell(x, fault), -1);
+                e.due("good behind it", tell(x, FARM + "walker w f 20 1 0 0;law deep not ((((((((9-7))))))))*2-weight/5 or 0;"), 3);
+                e.due("its value", x.law(2, 0), 1);
+                e.due("its knots", x.count(4), 12);
+            }
+        }
+        SnowScore often = told("");
+        for (int i = 0; i < 20; i++) {
+            e.due("eight open, " + i, tell(often, "law deep " + often("(", 8) + "?"), -1);
+        }
+        e.due("64 knots behind these", tell(often, FARM + "walker w f 20 1 0 0;law deep " + often("not ", 63) + "0;"), 3);
+        e.due("their value", often.law(2, 0), 1);
         e.stays("a fault and another", x -> tellBehind(x, "tree 0 0;field 1 1;") + tell(x, "law deep 1;law deep 2;"));
     }
 

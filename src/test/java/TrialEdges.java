@@ -373,6 +373,13 @@ final class TrialEdges extends Telling {
         x.fox(1, 0, 1);
         e.due("u's is blurred: w's below it", x.tried(1, 1, 2), 3);
         e.due("all are there still", x.count(8), 4);
+        x = told(ROW);
+        walk(x, 0, 1);
+        e.due("one alone", x.score(1, 0), 1);
+        e.due("without it", x.tried(1, 1, 0), 0);
+        walk(x, 0, 1, 1);
+        e.due("three", x.score(1, 0), 3);
+        e.due("without them", x.tried(1, 1, 0), 0);
         // One of f's own upon v's: without it v's is read.
         x = told("field 8 1;farm f 0 0 7 0;farm g 0 0 0 0;walker w f 20 1 1 0;walker v g 10 1 7 0;");
         walk(x, 1, 3);

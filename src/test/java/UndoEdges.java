@@ -20,6 +20,7 @@ final class UndoEdges extends Telling {
         e.sentence("T4", "FOXES that blurred any,", UndoEdges::foxesUndone);
         e.sentence("T4", "by call, can be undone,", UndoEdges::undoneByCall);
         e.sentence("T4", "the latest first (20 at most),", UndoEdges::latestFirst);
+        e.sentence("T4", "can be undone, the latest first (20 at most),", UndoEdges::anyDeeds);
         e.sentence("T4", "if no HOUR, FALL, THAW, NIGHT went by and no WINTER ended since.", UndoEdges::noneSince);
         e.sentence("T4", "An IMAGE keeps all but CLAIMS.", UndoEdges::allButClaims);
         e.sentence("43", "The latest is undone: how many are left;", UndoEdges::howManyAreLeft);
@@ -53,6 +54,25 @@ final class UndoEdges extends Telling {
         }
         for (int cell = 0; cell < x.count(0) * x.count(1); cell++) {
             all.add(x.read(cell));
+        }
+        return all;
+    }
+
+    /** All that World asks but for what can be undone. */
+    private static List<Long> allButUndo(SnowScore x) {
+        List<Long> all = new ArrayList<>(World.VIEWS[0].of(x));
+        // The 14th number of these is count(13).
+        all.remove(13);
+        // Being known by all is not of the image.
+        x.known(2);
+        return all;
+    }
+
+    private static List<Integer> nightsOf(SnowScore x) {
+        List<Integer> all = new ArrayList<>();
+        for (int i = 0; i < 40; i++) {
+            all.add(x.night());
+            all.addAll(stateOf(x));
         }
         return all;
     }
@@ -220,6 +240,41 @@ final class UndoEdges extends Telling {
         e.due("no more than 20 of those", x.undo(), -1);
     }
 
+    /** Any deed that can be undone, by a number: whether it did something. */
+    private static boolean anyDeed(SnowScore x, int number) {
+        int kind = number % 7;
+        int more = number / 7;
+        if (kind < 3) {
+            return x.step(more % 2, more / 2 % 4) >= 0;
+        }
+        if (kind == 3) {
+            return x.boots(more % 2, more / 2 % 2);
+        }
+        return x.fox(more % 16, more / 16 % 4, 1 + more / 64 % 8) > 0;
+    }
+
+    private static void anyDeeds(Edges e) {
+        for (int seed = 0; seed < 40; seed++) {
+            SnowScore x = told("field 8 2;tree 3 1;farm f 0 0 7 1;walker w f 20 1 0 0;walker v f 20 2 7 1;");
+            Numbers numbers = new Numbers(seed);
+            List<List<Integer>> states = new ArrayList<>();
+            for (int i = 0; i < 90; i++) {
+                List<Integer> ahead = stateOf(x);
+                if (numbers.next() % 4 == 0) {
+                    int left = states.size() - 1;
+                    e.due("seed " + seed + ": undo", x.undo(), left);
+                    e.due("seed " + seed + ": as it was", stateOf(x).equals(left < 0 ? ahead : states.remove(left)), true);
+                } else if (anyDeed(x, numbers.next())) {
+                    states.add(ahead);
+                    if (states.size() > 20) {
+                        states.remove(0);
+                    }
+                }
+                e.due("seed " + seed + ": can be undone", x.count(13), states.size());
+            }
+        }
+    }
+
     private static void noneSince(Edges e) {
         Deed[] hindering = {x -> x.hours(1), x -> x.hours(99), x -> x.fall(1), x -> x.fall(99), x -> x.thaw(1), x -> x.thaw(99),
             x -> x.night(), x -> x.winter()};
@@ -288,16 +343,15 @@ final class UndoEdges extends Telling {
 
     private static void allButClaims(Edges e) {
         for (int i = 0; i < DEEDS.length; i++) {
-            for (int view = 0; view < World.VIEWS.length; view++) {
-                SnowScore x = World.made();
-                x.keep();
-                DEEDS[i].to(x);
-                x.back();
-                SnowScore still = World.made();
-                still.keep();
-                still.back();
-                e.due("deed " + i + ", view " + view, World.VIEWS[view].of(x).equals(World.VIEWS[view].of(still)), true);
-            }
+            SnowScore x = World.made();
+            x.keep();
+            DEEDS[i].to(x);
+            x.back();
+            e.due("all that is asked, deed " + i, allButUndo(x).equals(allButUndo(World.made())), true);
+            x.back();
+            e.due("all that is asked, deed " + i + ", again", allButUndo(x).equals(allButUndo(World.made())), true);
+            x.back();
+            e.due("the nights behind deed " + i, nightsOf(x).equals(nightsOf(World.made())), true);
         }
         // CLAIMS and strikes that came since stay, and so does by how many they are known.
         SnowScore x = World.made();
